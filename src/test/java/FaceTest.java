@@ -11,7 +11,7 @@ public final class FaceTest {
     private static final String ARGUMENT = "java.lang.IllegalArgumentException";
 
     public static void main(String[] args) {
-        Check check = new Check();
+        Check check = new Check("The public face");
         Set<String> want = new TreeSet<>(Set.of(
             "public LoopRegions(int,int)",
             "public int LoopRegions.size()",

@@ -6,7 +6,7 @@ import java.util.Random;
  */
 public final class ModelTest {
     private static final int MOST_CALLS = 512;
-    private static final Check CHECK = new Check();
+    private static final Check CHECK = new Check("Random runs");
     private static final int[] DONE = new int[13];
     private static final int[] WRONG = new int[13];
 
@@ -132,14 +132,6 @@ public final class ModelTest {
     }
 
     private void same(String call, Check.Call mine, Check.Call plain) {
-        CHECK.due(name + calls + ": " + call, outcome(mine), outcome(plain));
-    }
-
-    private static Object outcome(Check.Call call) {
-        try {
-            return call.answer();
-        } catch (RuntimeException e) {
-            return e.getClass().getName();
-        }
+        CHECK.due(name + calls + ": " + call, Check.outcome(mine), Check.outcome(plain));
     }
 }
