@@ -241,7 +241,7 @@ public final class LoopRegions {
         }
 
         boolean has(int edge) {
-            return holds(isBelow(edge) ? below : right, Grid.lesserEnd(edge));
+            return ((isBelow(edge) ? below : right) & only(Grid.lesserEnd(edge))) != 0;
         }
 
         void add(int edge) {

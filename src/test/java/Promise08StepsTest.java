@@ -150,8 +150,10 @@ public final class Promise08StepsTest {
         whole("two loops", Tell.on(grid(4, 2), 0, 1, 3, 8, 4, 5, 7, 12), "2@1 4 | 2@5 20 | 5@0");
         whole("the loop behind a path", Tell.on(grid(6, 2), 12, 1, 6, 7, 9, 18),
             "2@3 8 | 2@4 16 | 2@9 32 | 2@10 40 | 3@5 22 | 4@0 1 | 5@3");
-        LoopRegions ring = Tell.on(grid(3, 3), 0, 2, 1, 5, 7, 11, 12, 14);
-        whole("a MUST within the loop", Tell.must(Tell.off(ring, 3, 6), 4), "2@5 16 | 1@4");
+        LoopRegions ring = Tell.on(grid(5, 5), 0, 2, 4, 6, 1, 11, 21, 31, 9, 19, 29, 39, 40, 42, 44, 46);
+        whole("a MUST within the loop", Tell.must(ring, 12),
+            "2@1 6 | 2@2 10 | 2@3 14 | 2@5 20 | 2@9 32 | 2@10 40 | 2@14 52 | 2@15 60 | 2@19 72 | 2@21 66 | 2@22 70"
+                + " | 2@23 74 | 5@0");
     }
 
     private static void closedWithNothingElse() {
@@ -320,6 +322,10 @@ public final class Promise08StepsTest {
         whole("edges before shades", Tell.told(Tell.barred(grid(2, 2), 0), 4), "2@0 0 2 | 3@1 6 | 3@2 8 | 10@0 1 3 5 7");
         whole("FULL at a greater place before ALONE", Tell.barred(Tell.off(grid(3, 3), 0), 8), "2@8 22 28 | 3@0 2");
         whole("BORDER before BRIDGE", Tell.off(grid(4, 4), 2, 10, 18, 9), "7@1 52 | 8@11 22");
+        LoopRegions path = Tell.must(Tell.on(grid(8, 8), 36, 37, 39), 33);
+        begins("EARLY before BORDER", Tell.off(path, 26, 42, 58, 74, 90, 106, 122),
+            "2@18 42 68 | 2@19 46 76 | 6@52 104 | 7@5 20");
+        begins("BRIDGE before APART", Tell.off(Tell.must(grid(4, 8), 1), 25, 27, 29, 31, 34, 42, 41), "8@43 86 | 9@32 64");
         whole("APART before MANY", Tell.told(Tell.must(Tell.off(grid(4, 4), 9, 11, 13, 15), 1, 13), 17), "9@13");
         whole("MANY before PARTS", Tell.told(Tell.black(Tell.white(grid(3, 3), 3, 4, 5), 0, 8), 1), "10@0");
         whole("PARTS before CUT", Tell.black(Tell.white(grid(3, 3), 3, 4, 5), 0, 2),
