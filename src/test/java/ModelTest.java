@@ -41,7 +41,8 @@ public final class ModelTest {
     }
 
     private void play() {
-        int length = 20 + random.nextInt(140);
+        boolean isLong = random.nextInt(20) == 0;
+        int length = isLong ? MOST_CALLS : 20 + random.nextInt(140);
         for (int i = 0; i < length && calls < MOST_CALLS && !CHECK.failed(); i++) {
             calls++;
             one(random.nextInt(40));
